@@ -38,7 +38,7 @@ public final class WalkAligner {
     private Graph graph = new Graph();
     private Graph spare = new Graph();
 
-    /** Makes an object with an empty text, no segments, an empty read, no result, an empty told. */
+    /** Makes an object with an empty text, no segments, an empty read, no result, an empty record. */
     public WalkAligner() {
     }
 

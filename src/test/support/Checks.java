@@ -75,24 +75,30 @@ public final class Checks {
 
     public static String walk(WalkAligner x) {
         StringBuilder all = new StringBuilder();
-        for (int k = 0; k < 64 && x.walk(k) != WalkAligner.BAD; k++) {
-            all.append(k == 0 ? "" : " ").append(x.walk(k));
+        int place = x.walk(0);
+        for (int k = 1; k < 64 && place != WalkAligner.BAD; k++) {
+            all.append(k == 1 ? "" : " ").append(place);
+            place = x.walk(k);
         }
         return all.toString();
     }
 
     public static String edits(WalkAligner x) {
         StringBuilder all = new StringBuilder();
-        for (int k = 0; k < 64 && x.edit(k) != WalkAligner.BAD; k++) {
-            all.append((char) x.edit(k));
+        int edit = x.edit(0);
+        for (int k = 1; k < 64 && edit != WalkAligner.BAD; k++) {
+            all.append((char) edit);
+            edit = x.edit(k);
         }
         return all.toString();
     }
 
     public static String record(WalkAligner x) {
         StringBuilder all = new StringBuilder();
-        for (int k = 0; k < 300 && x.letter(k) != WalkAligner.BAD; k++) {
-            all.append((char) x.letter(k));
+        int letter = x.letter(0);
+        for (int k = 1; k < 300 && letter != WalkAligner.BAD; k++) {
+            all.append((char) letter);
+            letter = x.letter(k);
         }
         return all.toString();
     }
