@@ -28,22 +28,43 @@ public final class FaceTest {
         "public int WalkAligner.letter(int)",
     };
 
+    private static final Checks checks = new Checks("Face");
+
     public static void main(String[] args) {
-        Checks checks = new Checks();
-        checks.same("the face", seen().toString(), new TreeSet<>(Set.of(FACE)).toString());
-        checks.yes("public", Modifier.isPublic(WalkAligner.class.getModifiers()));
-        checks.yes("final", Modifier.isFinal(WalkAligner.class.getModifiers()));
+        checks.test("the members of the document's face, and no other", FaceTest::members);
+        checks.test("BAD = -1 and NONE = -2", FaceTest::constants);
+        checks.test("the class is public and final", FaceTest::ofTheClass);
+        checks.test("the classes inside are static and not public", FaceTest::classesInside);
+        checks.test("static fields are final", FaceTest::staticFields);
+        checks.end();
+    }
+
+    private static void members() {
+        checks.same("members", seen().toString(), new TreeSet<>(Set.of(FACE)).toString());
+    }
+
+    private static void constants() {
         checks.same("BAD", WalkAligner.BAD, -1);
         checks.same("NONE", WalkAligner.NONE, -2);
+    }
+
+    private static void ofTheClass() {
+        checks.yes("public", Modifier.isPublic(WalkAligner.class.getModifiers()));
+        checks.yes("final", Modifier.isFinal(WalkAligner.class.getModifiers()));
+    }
+
+    private static void classesInside() {
         for (Class<?> inside : WalkAligner.class.getDeclaredClasses()) {
             checks.yes(inside + " is static", Modifier.isStatic(inside.getModifiers()));
             checks.no(inside + " is public", Modifier.isPublic(inside.getModifiers()));
         }
+    }
+
+    private static void staticFields() {
         for (Field field : WalkAligner.class.getDeclaredFields()) {
             boolean fixed = Modifier.isFinal(field.getModifiers());
             checks.yes(field + " is final if static", fixed || !Modifier.isStatic(field.getModifiers()));
         }
-        checks.end();
     }
 
     private static Set<String> seen() {

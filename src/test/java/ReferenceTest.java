@@ -22,10 +22,18 @@ public final class ReferenceTest {
             + "L\ta\t+\tb\t+\t0M\nL\tb\t+\tc\t+\t0M\nL\tc\t+\td\t+\t0M\nL\td\t+\te\t+\t0M\n";
     private static final String RING = "S\ta\tAACC\nS\tb\tTTTT\nS\tc\tGTTG\nS\td\tTGG\nS\te\tACAC\n"
             + "L\ta\t+\tb\t+\t0M\nL\tb\t+\tc\t+\t0M\nL\tc\t+\td\t+\t0M\nL\td\t+\te\t+\t0M\nL\te\t+\ta\t+\t0M\n";
-    private static final Checks checks = new Checks();
+    private static final String WIDE_RING = "S\ta\tTTTT\nS\tb\tCCC\nS\tc\tCCGC\nS\td\tTATA\n"
+            + "L\ta\t+\tb\t+\t0M\nL\tb\t+\tc\t+\t0M\nL\tc\t+\td\t+\t0M\nL\td\t+\ta\t+\t0M\n";
+    private static final Checks checks = new Checks("Reference");
     private static long state = 20240607;
 
     public static void main(String[] args) {
+        checks.test("made-up graphs, reads and spoilt texts", ReferenceTest::compareMadeUp);
+        checks.test("long ways round", ReferenceTest::compareLongWays);
+        checks.end();
+    }
+
+    private static void compareMadeUp() {
         for (int round = 0; round < 400; round++) {
             String text = madeUpText(1 + below(8), below(13), below(5), 1 + below(4));
             compareGraph(text);
@@ -37,9 +45,13 @@ public final class ReferenceTest {
                 compareLoad(spoilt(text));
             }
         }
+    }
+
+    private static void compareLongWays() {
         compareResult(CHAIN, "ACCATTGTCAAC");
         compareResult(RING, "AACCGTTGACAC");
-        checks.end();
+        compareResult(WIDE_RING, "ATTTTCGTAATT");
+        compareResult(WIDE_RING, "TATATTTTCCCG");
     }
 
     // ---- what is compared
@@ -77,19 +89,19 @@ public final class ReferenceTest {
         String of = " of " + read + " in " + text;
         WalkAligner x = new Session(text, read).next();
         checks.same("cost" + of, x.align(), model.cost);
-        checks.same("walk" + of, Checks.walk(x), model.walkText());
-        checks.same("edits" + of, Checks.edits(x), model.edits);
+        checks.same("walk" + of, Calls.walk(x), model.walkText());
+        checks.same("edits" + of, Calls.edits(x), model.edits);
         for (int path = 0; path < 5; path++) {
             checks.same("lies " + path + of, x.lies(path) ? 1 : 0, model.lies(path) ? 1 : 0);
         }
         WalkAligner y = new Session(text, read).next();
         y.align();
         checks.same("tell" + of, y.tell(), model.record().length());
-        checks.same("record" + of, Checks.record(y), model.record());
+        checks.same("record" + of, Calls.record(y), model.record());
     }
 
     private static void compareLoad(String text) {
-        checks.same("load " + text, Checks.typed(text).load(), -new Model(text).firstBadLine);
+        checks.same("load " + text, Calls.typed(text).load(), -new Model(text).firstBadLine);
     }
 
     /** Hands out an object with a graph and a read, and a new one before its calls are used up. */
@@ -106,8 +118,8 @@ public final class ReferenceTest {
 
         WalkAligner next() {
             if (callsLeft == 0) {
-                object = Checks.loaded(text);
-                Checks.read(object, read);
+                object = Calls.loaded(text);
+                Calls.read(object, read);
                 callsLeft = MOST_CALLS - text.length() - 1 - read.length();
             }
             callsLeft--;
