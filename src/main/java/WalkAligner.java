@@ -513,7 +513,6 @@ public final class WalkAligner {
         }
 
         void joinPlaces() {
-            joins = 0;
             for (int place = 0; place < places; place++) {
                 int side = placeSides[place];
                 if (place < lastPlace(side)) {

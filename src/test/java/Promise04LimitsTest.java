@@ -196,6 +196,8 @@ public final class Promise04LimitsTest {
         good("H" + "x".repeat(400 - segment.length() - 2) + "\n" + segment, "1 0 0 8");
         good("H" + "x".repeat(398) + "\n", "0 0 0 0");
         bad("H" + "x".repeat(400 - segment.length() - 1) + "\n" + segment.replace("\n", ""), 2);
+        bad("H" + "x".repeat(397) + "\n?", 2);
+        bad("H" + "x".repeat(397) + "\n\n", 2);
     }
 
     private static void wholeGraph() {

@@ -49,8 +49,8 @@ public final class Promise05SizeTest {
         checks.same("before load()", Calls.sizes(x), "3 2 1 12");
         checks.same("load()", x.load(), 0);
         checks.same("behind load()", Calls.sizes(x), "4 2 1 14");
-        Calls.type(x, "?");
-        checks.same("load() of a text that is not good", x.load(), -9);
+        Calls.type(x, "S\te\tA\nL\te\t+\ta\t+\t0M\nP\tq\te+\t*\n?");
+        checks.same("load() of a text that is not good", x.load(), -12);
         checks.same("behind it", Calls.sizes(x), "4 2 1 14");
         x.clear();
         checks.same("behind clear()", Calls.sizes(x), "4 2 1 14");

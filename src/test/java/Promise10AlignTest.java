@@ -93,7 +93,9 @@ public final class Promise10AlignTest {
         Calls.checkNoResult(checks, "behind NONE", x);
         checks.same("the record", Calls.record(x), ">a>b<c\t1\t0\t0\t5=");
         checks.same("the graph", Calls.sizes(x), "0 0 0 0");
-        Calls.type(x, "S\ta\tCGTC\n");
+        checks.yes("type", x.type('S'));
+        checks.same("load() of the text and a line that is not ended", x.load(), -2);
+        Calls.type(x, "\ta\tCGTC\n");
         checks.same("load() of the text and a line more", x.load(), 0);
         checks.same("the read, least(5, 3)", x.least(5, 3), 1);
         checks.same("the read, least(6, 3)", x.least(6, 3), Calls.BAD);

@@ -7,6 +7,7 @@ public final class Promise11LeastTest {
         checks.test("where inserts may stand anywhere", Promise11LeastTest::insertsAnywhere);
         checks.test("to any walk whose last place is v", Promise11LeastTest::anyWalk);
         checks.test("to any walk round a circle, with deletes", Promise11LeastTest::roundACircle);
+        checks.test("to any walk against the order of places, with deletes", Promise11LeastTest::againstTheOrder);
         checks.test("of no bases: a walk has one place at least", Promise11LeastTest::noBases);
         checks.test("of 12 bases", Promise11LeastTest::allBases);
         checks.test("of the read, as it is now", Promise11LeastTest::asItIsNow);
@@ -51,6 +52,15 @@ public final class Promise11LeastTest {
         checks.same("an insert", x.least(2, 3), 1);
         WalkAligner y = Calls.ready("S\ta\tACG\nL\ta\t+\ta\t+\t0M\n", "ACACAC");
         checks.same("two deletes on the way", y.least(6, 1), 2);
+    }
+
+    private static void againstTheOrder() {
+        // Each segment lies behind one with a greater number: c+ 4 .. 7, then b+ 2, then a+ 0.
+        String row = "S\ta\tC\nS\tb\tC\nS\tc\tACGT\nL\tc\t+\tb\t+\t0M\nL\tb\t+\ta\t+\t0M\n";
+        WalkAligner x = Calls.ready(row, "ACGT");
+        checks.same("no delete", x.least(4, 7), 0);
+        checks.same("one delete", x.least(4, 2), 1);
+        checks.same("two deletes", x.least(4, 0), 2);
     }
 
     private static void noBases() {

@@ -161,6 +161,7 @@ public final class Promise15TellTest {
     private static void ofTheResult() {
         WalkAligner x = Calls.aligned(Calls.CHAIN, "CGTCC");
         x.drop();
+        checks.same("tell() behind drop()", x.tell(), 15);
         Calls.read(x, "AA");
         x.clear();
         Calls.type(x, "S\tz\tA\nS\tz\tA\n");
