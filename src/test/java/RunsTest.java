@@ -38,7 +38,7 @@ public final class RunsTest {
             case 2 -> type((char) (madeUp.below(2) == 0 ? madeUp.below(140) : madeUp.below(0x10000)));
             case 3 -> clear();
             case 4 -> clearAndTypeAll();
-            case 5, 6 -> same("load()", object.load(), twin.load());
+            case 5, 6 -> load();
             case 7, 8 -> readAll();
             case 9 -> read((char) madeUp.below(140));
             case 10 -> drop();
@@ -73,9 +73,7 @@ public final class RunsTest {
 
     private static void same(String what, long got, long due) {
         call++;
-        if (call <= MOST_CALLS) {
-            checks.same("run " + run + ", call " + call + ", " + what, got, due);
-        }
+        checks.same("run " + run + ", call " + call + ", " + what, got, due);
     }
 
     private static void type(char c) {
@@ -83,9 +81,13 @@ public final class RunsTest {
     }
 
     private static void typeAll(String text) {
-        for (char c : text.toCharArray()) {
-            type(c);
+        for (int k = 0; k < text.length() && call < MOST_CALLS; k++) {
+            type(text.charAt(k));
         }
+    }
+
+    private static void load() {
+        same("load()", object.load(), twin.load());
     }
 
     private static void clear() {
@@ -97,7 +99,9 @@ public final class RunsTest {
     private static void clearAndTypeAll() {
         clear();
         typeAll(madeUp.text());
-        same("load()", object.load(), twin.load());
+        if (call < MOST_CALLS) {
+            load();
+        }
     }
 
     private static void read(char c) {
@@ -106,8 +110,8 @@ public final class RunsTest {
 
     private static void readAll() {
         String bases = twin.graph.places.isEmpty() ? "ACGT" : madeUp.read(twin.graph);
-        for (char c : bases.toCharArray()) {
-            read(c);
+        for (int k = 0; k < bases.length() && call < MOST_CALLS; k++) {
+            read(bases.charAt(k));
         }
     }
 
