@@ -111,6 +111,9 @@ public final class Promise04LimitsTest {
         bad(paths(5), 1 + 5);
         bad(paths(6), 1 + 5);
         good(paths(4) + "H\nS\tb\tA\n", "2 0 4 4");
+        // The step of the fifth path might go on with the fourth one.
+        String loop = "S\ta\tA\nL\ta\t+\ta\t+\t0M\n";
+        bad(loop + path("p", 1) + path("q", 1) + path("r", 1) + path("s", 1) + path("t", 1), 7);
     }
 
     private static String path(String name, int steps) {

@@ -9,6 +9,7 @@ public final class Promise04LinesTest {
         checks.test("each ended by the character 10", Promise04LinesTest::otherEnds);
         checks.test("each of one of these forms: an empty line is none", Promise04LinesTest::emptyLine);
         checks.test("each of one of these forms: other lines", Promise04LinesTest::otherLines);
+        checks.test("each of one of these forms: every TAB is due, once", Promise04LinesTest::everyTab);
         checks.test("'H' and anything behind it", Promise04LinesTest::headings);
         checks.test("'S' TAB name TAB bases", Promise04LinesTest::formOfSegments);
         checks.test("the name is none of an earlier segment", Promise04LinesTest::namesOfSegments);
@@ -78,6 +79,17 @@ public final class Promise04LinesTest {
             }
         }
         badBehind(TWO, "\t", "\tS\tc\tA", " H", "\tH", "s\tc\tA", "h", "l\ta\t+\tb\t+\t0M", "p\tp\ta+\t*", "#", "W\tc\tA");
+    }
+
+    private static void everyTab() {
+        for (String line : new String[] {"S\tc\tAC", "L\ta\t+\tb\t-\t0M", "P\tp\ta+,b+\t*"}) {
+            checks.same("load() of " + Calls.shown(line), Calls.typed(LINKED + line + "\n").load(), 0);
+            for (int at = line.indexOf('\t'); at >= 0; at = line.indexOf('\t', at + 1)) {
+                String before = line.substring(0, at);
+                String behind = line.substring(at + 1);
+                badBehind(LINKED, before + behind, before + "\t\t" + behind, before + " " + behind, before + "\n" + behind);
+            }
+        }
     }
 
     private static void headings() {
@@ -184,6 +196,8 @@ public final class Promise04LinesTest {
                 "Pp\ta+\t*", "P p\ta+\t*", "P\tp a+\t*", "P\tp\ta+ *", "P\tp\ta+*", "P\tp\ta+\t**", "P\tp\ta+\t*\t", "P\tp\ta+\t* ",
                 "P\tp\ta+\t0M", "P\tp\ta+\t*,*", "P\t\tp\ta+\t*", "P\tp\t\ta+\t*", "P\tp\ta+\t\t*", "PP\tp\ta+\t*", "P\tP\ta+\t*",
                 "P\tp+\ta+\t*", "P\tp,q\ta+\t*");
+        // The step might go on with the path before.
+        badBehind(Calls.LOOP, "P\tabcx+\t*", "P\tabcdx+\t*", "P\t\tx+\t*", "Px+\t*", "P\tx+\t*");
     }
 
     private static void formOfSteps() {
@@ -206,6 +220,9 @@ public final class Promise04LinesTest {
         bad("S\ta\tA\nP\tp\ta+\t*\nP\tp\ta-\t*\n", 3);
         bad("S\ta\tA\nP\tp\ta+\t*\nP\tq\ta+\t*\nH\nP\tp\ta-\t*\n", 5);
         bad("S\ta\tA\nP\tp\ta+\t*\nP\tqrs\ta+\t*\nP\tqrs\ta-\t*\n", 4);
+        // The step might go on with the path before.
+        badBehind(Calls.LOOP, "P\tq\tx+\t*", "P\tq\tx+,x+\t*");
+        good(Calls.LOOP + "P\tr\tx+\t*\n", "1 1 2 2");
         good("S\ta\tA\nP\tp\ta+\t*\nP\tpp\ta+\t*\nP\tppp\ta+\t*\nP\t0\ta+\t*\n", "1 0 4 2");
         good("S\ta\tA\nP\ta\ta+\t*\n", "1 0 1 2");
     }

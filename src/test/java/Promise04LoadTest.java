@@ -8,6 +8,7 @@ public final class Promise04LoadTest {
         checks.test("0, when it is good; then it is the graph", Promise04LoadTest::goodTextIsTheGraph);
         checks.test("The empty text is good and is a graph without segments", Promise04LoadTest::emptyTextIsTheGraph);
         checks.test("Nothing of the former graph is left", Promise04LoadTest::nothingIsLeftOfTheFormerGraph);
+        checks.test("Nothing of the former graph's links counts", Promise04LoadTest::formerLinksDoNotCount);
         checks.test("Nothing of a text that was not good is left", Promise04LoadTest::nothingIsLeftOfABadText);
         checks.test("and there is no result", Promise04LoadTest::thereIsNoResult);
         checks.test("minus the number of the first line", Promise04LoadTest::numberOfTheLine);
@@ -74,6 +75,20 @@ public final class Promise04LoadTest {
         checks.same("load() of a path over a former link", x.load(), -2);
         Calls.load(x, "S\ta\tC\nP\tp\ta-\t*\n");
         checks.same("a former path's name is free", Calls.sizes(x), "1 0 1 2");
+    }
+
+    private static void formerLinksDoNotCount() {
+        String segments = "S\ta\tACGG\nS\tb\tT\n";
+        String links = "L\ta\t+\ta\t+\t0M\nL\ta\t+\ta\t-\t0M\nL\ta\t+\tb\t+\t0M\nL\ta\t+\tb\t-\t0M\n";
+        WalkAligner x = Calls.ready(segments + links, "ACGG");
+        checks.same("least(4, 9) with a link", x.least(4, 9), 1);
+        checks.same("load() again", x.load(), 0);
+        Calls.load(x, segments);
+        checks.same("least(4, 9) without links", x.least(4, 9), 3);
+        checks.same("least(4, 8) without links", x.least(4, 8), 4);
+        checks.same("least(4, 3) without links", x.least(4, 3), 0);
+        Calls.load(x, segments);
+        checks.same("least(4, 9) again", x.least(4, 9), 3);
     }
 
     private static void nothingIsLeftOfABadText() {

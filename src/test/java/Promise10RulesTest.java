@@ -88,6 +88,8 @@ public final class Promise10RulesTest {
 
     private static void rule4() {
         result("S\ta\tTCA\nL\ta\t+\ta\t+\t0M\n", "TCT", 1, "0 1 2 0", "==D=");
+        // The place before the deleted one is place 0.
+        result("S\ta\tACGG\nL\ta\t+\ta\t+\t0M\n", "GGAGGA", 1, "2 3 0 1 2 3 0", "===D===");
         String ring = "S\ta\tTTTT\nS\tb\tCCC\nS\tc\tCCGC\nS\td\tTATA\nL\ta\t+\tb\t+\t0M\nL\tb\t+\tc\t+\t0M\n"
                 + "L\tc\t+\td\t+\t0M\nL\td\t+\ta\t+\t0M\n";
         result(ring, "ATTTTCGTAATT", 6, "25 0 1 2 3 8 9 10 14 15 16 17 22 23 24 25 0 1", "=====DDDD==D==D===");
